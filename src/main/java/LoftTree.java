@@ -1359,7 +1359,8 @@ public final class LoftTree {
         private long buying = 0;
         private long selling = 0;
         private long widening = 0;
-        private long low = DEAD;
+        // the least of each state of the fork that was swept last
+        private final long[] lows = new long[STATES];
 
         Forecast(Tree tree, int measure) {
             this.tree = tree;
@@ -1400,75 +1401,14 @@ public final class LoftTree {
                 return;
             }
             lookBehind(f);
-            for (int s = 0; s < STATES; s++) {
-                search(f, s % STOCKS, s / STOCKS);
-                values[f * STATES + s] = low;
-            }
+            sweep(f);
+            System.arraycopy(lows, 0, values, f * STATES, STATES);
         }
 
         /** The first step of the least, as widened (times the stocks) and the stock then; NONE if there is none. */
         int choose(int f, int stock, int isWide) {
             lookBehind(f);
-            return search(f, stock, isWide);
-        }
-
-        void lookBehind(int f) {
-            long scale = measure == MEAN ? PARTS[tree.far[f]] : 1L;
-            boolean isEnd = isEnd(f);
-            for (int s = 0; s < STATES; s++) {
-                behind[s] = isEnd ? atEnd(f) : gather(f, s);
-            }
-            addKeeping(f, scale, isEnd ? tree.hold - tree.left : tree.hold);
-        }
-
-        /** What a step comes to at the fork that was looked at last; the step is lawful there. */
-        long weigh(int x, int b, int then, int wideThen) {
-            long rest = behind[wideThen * STOCKS + then];
-            if (rest == DEAD) {
-                return DEAD;
-            }
-            long all = rest + (x > 0 ? x * buying : x * selling) + b * widening;
-            return measure == COIN ? Math.max(0L, all) : all;
-        }
-
-        private boolean isEnd(int f) {
-            return tree.kids[f] == 0 || tree.far[f] >= endAt;
-        }
-
-        private long atEnd(int f) {
-            return measure == RUE ? -spared[f] : 0L;
-        }
-
-        private long gather(int f, int s) {
-            if (measure == LIKELIEST) {
-                return values[tree.likeliest(f) * STATES + s];
-            }
-            long all = measure == MEAN ? 0L : NEVER;
-            for (int i = 0; i < tree.kids[f]; i++) {
-                int k = tree.kid[f * MAX_KIDS + i];
-                long value = values[k * STATES + s];
-                if (value == DEAD) {
-                    return DEAD;
-                }
-                all = measure == MEAN ? all + tree.chance[k] * value : Math.max(all, value);
-            }
-            return all;
-        }
-
-        /** Counts holding into what lies behind, since it hangs on the stock then alone. */
-        private void addKeeping(int f, long scale, int keeping) {
-            buying = tree.price[f] * scale;
-            selling = tree.sell[f] * scale;
-            widening = tree.widening * scale;
-            for (int s = 0; s < STATES; s++) {
-                if (behind[s] != DEAD) {
-                    behind[s] += keeping * (s % STOCKS) * scale;
-                }
-            }
-        }
-
-        private int search(int f, int stock, int isWide) {
-            low = DEAD;
+            long low = DEAD;
             int pick = NONE;
             int last = isWide == 0 && tree.far[f] <= widenTo ? 1 : 0;
             for (int b = 0; b <= last; b++) {
@@ -1486,28 +1426,129 @@ public final class LoftTree {
             return pick;
         }
 
+        void lookBehind(int f) {
+            long scale = measure == MEAN ? PARTS[tree.far[f]] : 1L;
+            boolean isEnd = isEnd(f);
+            if (isEnd) {
+                Arrays.fill(behind, measure == RUE ? -spared[f] : 0L);
+            } else if (measure == LIKELIEST) {
+                System.arraycopy(values, tree.likeliest(f) * STATES, behind, 0, STATES);
+            } else {
+                gather(f);
+            }
+            addKeeping(f, scale, isEnd ? tree.hold - tree.left : tree.hold);
+        }
+
+        /** What a step comes to at the fork that was looked at last; the step is lawful there. */
+        long weigh(int x, int b, int then, int wideThen) {
+            long rest = behind[wideThen * STOCKS + then];
+            if (rest == DEAD) {
+                return DEAD;
+            }
+            long all = rest + (x > 0 ? x * buying : x * selling) + b * widening;
+            return measure == COIN && all < 0 ? 0L : all;
+        }
+
+        private boolean isEnd(int f) {
+            return tree.kids[f] == 0 || tree.far[f] >= endAt;
+        }
+
+        private void gather(int f) {
+            Arrays.fill(behind, measure == MEAN ? 0L : NEVER);
+            for (int i = 0; i < tree.kids[f]; i++) {
+                int k = tree.kid[f * MAX_KIDS + i];
+                long odds = tree.chance[k];
+                for (int s = 0; s < STATES; s++) {
+                    long value = values[k * STATES + s];
+                    if (value == DEAD || behind[s] == DEAD) {
+                        behind[s] = DEAD;
+                    } else if (measure == MEAN) {
+                        behind[s] += odds * value;
+                    } else if (value > behind[s]) {
+                        behind[s] = value;
+                    }
+                }
+            }
+        }
+
+        /** Counts holding into what lies behind, since it hangs on the stock then alone. */
+        private void addKeeping(int f, long scale, int keeping) {
+            buying = tree.price[f] * scale;
+            selling = tree.sell[f] * scale;
+            widening = tree.widening * scale;
+            for (int then = 0; then < STOCKS; then++) {
+                long kept = keeping * then * scale;
+                if (behind[then] != DEAD) {
+                    behind[then] += kept;
+                }
+                if (behind[STOCKS + then] != DEAD) {
+                    behind[STOCKS + then] += kept;
+                }
+            }
+        }
+
+        /** The least for every state at once: what the search of choose finds, without looking at each step of each. */
+        private void sweep(int f) {
+            sweepOver(f, 0);
+            sweepOver(f, 1);
+            boolean mayWiden = tree.far[f] <= widenTo;
+            for (int stock = 0; stock < STOCKS; stock++) {
+                long wideLow = lows[STOCKS + stock];
+                if (mayWiden && wideLow != DEAD && wideLow + widening < lows[stock]) {
+                    lows[stock] = wideLow + widening;
+                }
+            }
+            for (int s = 0; s < STATES && measure == COIN; s++) {
+                lows[s] = Math.max(0L, lows[s]);
+            }
+        }
+
+        /**
+         * The least of steps that don't widen. What stays when nothing is traded grows by one from stock to stock; so
+         * the best sale is the best one of the stock below, or none, and what is bought is looked for above it.
+         */
+        private void sweepOver(int f, int isWide) {
+            int base = isWide * STOCKS;
+            int room = tree.room(isWide);
+            long saleLow = DEAD;
+            for (int stock = 0; stock < STOCKS; stock++) {
+                int idle = stock - tree.need[f];
+                if (idle >= 0 && idle <= room && behind[base + idle] != DEAD) {
+                    saleLow = Math.min(saleLow, behind[base + idle] + idle * selling);
+                }
+                long low = saleLow == DEAD ? DEAD : saleLow - idle * selling;
+                long buyLow = lowestWhenBought(base, idle, Math.min(room, idle + tree.most[f]));
+                lows[base + stock] = Math.min(low, buyLow);
+            }
+        }
+
+        private long lowestWhenBought(int base, int idle, int fullest) {
+            long low = DEAD;
+            for (int then = idle < 0 ? 0 : idle + 1; then <= fullest; then++) {
+                long rest = behind[base + then];
+                if (rest != DEAD && rest + (then - idle) * buying < low) {
+                    low = rest + (then - idle) * buying;
+                }
+            }
+            return low;
+        }
+
         /** Each fork under f has a step by itself: counted in the parts of that one, then by its chance. */
         private void fillKnown(int f) {
+            int row = f * STATES;
             for (int s = 0; s < STATES; s++) {
-                values[f * STATES + s] = 0L;
+                values[row + s] = 0L;
             }
             long scale = measure == MEAN ? PARTS[tree.far[f] + 1] : 1L;
             for (int i = 0; i < tree.kids[f]; i++) {
                 int k = tree.kid[f * MAX_KIDS + i];
                 System.arraycopy(values, k * STATES, behind, 0, STATES);
                 addKeeping(f, scale, tree.hold);
+                sweep(f);
                 for (int s = 0; s < STATES; s++) {
-                    search(f, s % STOCKS, s / STOCKS);
-                    addKnown(f * STATES + s, tree.chance[k]);
+                    boolean isLost = lows[s] == DEAD || values[row + s] == DEAD;
+                    values[row + s] = isLost ? DEAD : values[row + s] + tree.chance[k] * lows[s];
                 }
-            }
-        }
-
-        private void addKnown(int place, int odds) {
-            if (low == DEAD) {
-                values[place] = DEAD;
-            } else if (values[place] != DEAD) {
-                values[place] += odds * low;
             }
         }
     }
@@ -1541,11 +1582,16 @@ public final class LoftTree {
 
         private void traceFork(int f) {
             Arrays.fill(leave, UNREACHED);
-            for (int s = 0; s < STATES; s++) {
-                int isWide = s / STOCKS;
-                int last = come[f * STATES + s] == UNREACHED ? NONE : 1 - isWide;
-                for (int b = 0; b <= last; b++) {
-                    spread(f, s, b, tree.fullest(f, s % STOCKS, isWide | b));
+            int row = f * STATES;
+            for (int stock = 0; stock < STOCKS; stock++) {
+                int paid = come[row + stock];
+                if (paid != UNREACHED) {
+                    spread(f, stock, 0, paid, tree.fullest(f, stock, 0));
+                    paid += tree.widening;
+                }
+                paid = Math.min(paid, come[row + STOCKS + stock]);
+                if (paid != UNREACHED) {
+                    spread(f, stock, 1, paid, tree.fullest(f, stock, 1));
                 }
             }
             for (int i = 0; i < tree.kids[f]; i++) {
@@ -1556,12 +1602,15 @@ public final class LoftTree {
             }
         }
 
-        private void spread(int f, int s, int b, int fullest) {
-            int base = (s / STOCKS | b) * STOCKS;
+        /** Looks at all steps from a stock; widening is paid for already. */
+        private void spread(int f, int stock, int wideThen, int paid, int fullest) {
+            int base = wideThen * STOCKS;
+            int x = tree.boughtFor(f, stock, 0);
             for (int then = 0; then <= fullest; then++) {
-                int x = tree.boughtFor(f, s % STOCKS, then);
-                int cost = come[f * STATES + s] + tree.outlay(f, x, b, then);
-                leave[base + then] = Math.min(leave[base + then], cost);
+                int cost = paid + tree.outlay(f, x + then, 0, then);
+                if (cost < leave[base + then]) {
+                    leave[base + then] = cost;
+                }
             }
         }
 

@@ -13,7 +13,7 @@ public final class LoftTreeAgainstOracle {
     }
 
     public static void main(String[] args) {
-        int trees = args.length > 0 ? Integer.parseInt(args[0]) : 700;
+        int trees = args.length > 0 ? Integer.parseInt(args[0]) : 400;
         long seed = args.length > 1 ? Long.parseLong(args[1]) : 1;
         for (int t = 0; t < trees && wrong < 30; t++) {
             oneTree(new Random(seed * 1000003 + t), t);

@@ -100,7 +100,7 @@ final class Oracle implements Cloneable {
             }
             node.price = r.nextInt(price + 1);
             node.sell = r.nextInt(price + 1);
-            node.most = r.nextInt(room + 2);
+            node.most = Math.min(20, r.nextInt(room + 2));
             node.need = r.nextInt(3) == 0 ? r.nextInt(room + 1) : r.nextInt(2);
             if (r.nextInt(4) == 0 && f > 1) {
                 Node like = o.nodes.get(r.nextInt(f - 1) + 1);
