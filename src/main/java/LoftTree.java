@@ -394,9 +394,11 @@ public final class LoftTree {
         }
         trial.aim(MEAN);
         trial.copyValues(mean);
-        trial.known = f;
-        refillUpTo(f, scene.fork);
-        trial.fillFork(scene.fork);
+        trial.fillKnown(f);
+        if (f != scene.fork) {
+            refillUpTo(scene.tree.under[f], scene.fork);
+            trial.fillFork(scene.fork);
+        }
         return least - trial.at(scene.fork, scene.stock, scene.wide);
     }
 
@@ -408,7 +410,7 @@ public final class LoftTree {
             last = tree.likeliest(last);
         }
         refillUpTo(last, scene.fork);
-        return excessOf(pickNow(trial));
+        return excessOf(pickNow(trial), leastNow(MEAN));
     }
 
     public long late(int far) {
@@ -457,7 +459,7 @@ public final class LoftTree {
         trial.aim(MEAN);
         trial.endAt = scene.tree.far[scene.fork] + far;
         trial.fillFrom(scene.fork);
-        return excessOf(pickNow(trial));
+        return excessOf(pickNow(trial), leastNow(MEAN));
     }
 
     // ---- forks that are alike ----
@@ -778,9 +780,8 @@ public final class LoftTree {
         return n;
     }
 
-    /** By how much the mean of a step now is above the least. */
-    private long excessOf(int pick) {
-        long least = leastNow(MEAN);
+    /** By how much the mean of a step now is above the least; the table of means is filled by then. */
+    private long excessOf(int pick, long least) {
         if (pick == NONE || least == DEAD) {
             return NEVER;
         }
@@ -1349,8 +1350,6 @@ public final class LoftTree {
         int widenTo = MAX_FAR;
         /** Forks so far from fork 0, or further, are taken as ends. */
         int endAt = MAX_FAR + 1;
-        /** The fork at which one knows which of those under it comes. */
-        int known = NONE;
         private int measure;
         private final long[] values = new long[MAX_FORKS * STATES];
         private final long[] spared = new long[MAX_FORKS];
@@ -1371,7 +1370,6 @@ public final class LoftTree {
             measure = newMeasure;
             widenTo = MAX_FAR;
             endAt = MAX_FAR + 1;
-            known = NONE;
         }
 
         void copyValues(Forecast other) {
@@ -1396,13 +1394,34 @@ public final class LoftTree {
         }
 
         void fillFork(int f) {
-            if (f == known && !isEnd(f)) {
-                fillKnown(f);
-                return;
-            }
             lookBehind(f);
             sweep(f);
             System.arraycopy(lows, 0, values, f * STATES, STATES);
+        }
+
+        /**
+         * Fills the row of a fork at which one knows which of those under it comes: each of them has a step by itself,
+         * counted in the parts of that one, then by its chance. At an end there is nothing to know.
+         */
+        void fillKnown(int f) {
+            if (isEnd(f)) {
+                return;
+            }
+            int row = f * STATES;
+            for (int s = 0; s < STATES; s++) {
+                values[row + s] = 0L;
+            }
+            long scale = measure == MEAN ? PARTS[tree.far[f] + 1] : 1L;
+            for (int i = 0; i < tree.kids[f]; i++) {
+                int k = tree.kid[f * MAX_KIDS + i];
+                System.arraycopy(values, k * STATES, behind, 0, STATES);
+                addKeeping(f, scale, tree.hold);
+                sweep(f);
+                for (int s = 0; s < STATES; s++) {
+                    boolean isLost = lows[s] == DEAD || values[row + s] == DEAD;
+                    values[row + s] = isLost ? DEAD : values[row + s] + tree.chance[k] * lows[s];
+                }
+            }
         }
 
         /** The first step of the least, as widened (times the stocks) and the stock then; NONE if there is none. */
@@ -1531,25 +1550,6 @@ public final class LoftTree {
                 }
             }
             return low;
-        }
-
-        /** Each fork under f has a step by itself: counted in the parts of that one, then by its chance. */
-        private void fillKnown(int f) {
-            int row = f * STATES;
-            for (int s = 0; s < STATES; s++) {
-                values[row + s] = 0L;
-            }
-            long scale = measure == MEAN ? PARTS[tree.far[f] + 1] : 1L;
-            for (int i = 0; i < tree.kids[f]; i++) {
-                int k = tree.kid[f * MAX_KIDS + i];
-                System.arraycopy(values, k * STATES, behind, 0, STATES);
-                addKeeping(f, scale, tree.hold);
-                sweep(f);
-                for (int s = 0; s < STATES; s++) {
-                    boolean isLost = lows[s] == DEAD || values[row + s] == DEAD;
-                    values[row + s] = isLost ? DEAD : values[row + s] + tree.chance[k] * lows[s];
-                }
-            }
         }
     }
 
