@@ -1400,8 +1400,8 @@ public final class LoftTree {
         }
 
         /**
-         * Fills the row of a fork at which one knows which of those under it comes: each of them has a step by itself,
-         * counted in the parts of that one, then by its chance. At an end there is nothing to know.
+         * Fills the row of means of a fork at which one knows which of those under it comes: each of them has a step by
+         * itself, counted in the parts of that one, then by its chance. At an end there is nothing to know.
          */
         void fillKnown(int f) {
             if (isEnd(f)) {
@@ -1411,11 +1411,10 @@ public final class LoftTree {
             for (int s = 0; s < STATES; s++) {
                 values[row + s] = 0L;
             }
-            long scale = measure == MEAN ? PARTS[tree.far[f] + 1] : 1L;
             for (int i = 0; i < tree.kids[f]; i++) {
                 int k = tree.kid[f * MAX_KIDS + i];
                 System.arraycopy(values, k * STATES, behind, 0, STATES);
-                addKeeping(f, scale, tree.hold);
+                addKeeping(f, PARTS[tree.far[k]], tree.hold);
                 sweep(f);
                 for (int s = 0; s < STATES; s++) {
                     boolean isLost = lows[s] == DEAD || values[row + s] == DEAD;
@@ -1429,8 +1428,7 @@ public final class LoftTree {
             lookBehind(f);
             long low = DEAD;
             int pick = NONE;
-            int last = isWide == 0 && tree.far[f] <= widenTo ? 1 : 0;
-            for (int b = 0; b <= last; b++) {
+            for (int b = 0; b <= 1 - isWide; b++) {
                 int wideThen = isWide | b;
                 int fullest = tree.fullest(f, stock, wideThen);
                 int x = tree.boughtFor(f, stock, 0);
@@ -1464,8 +1462,7 @@ public final class LoftTree {
             if (rest == DEAD) {
                 return DEAD;
             }
-            long all = rest + (x > 0 ? x * buying : x * selling) + b * widening;
-            return measure == COIN && all < 0 ? 0L : all;
+            return rest + (x > 0 ? x * buying : x * selling) + b * widening;
         }
 
         private boolean isEnd(int f) {

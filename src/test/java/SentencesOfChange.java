@@ -92,6 +92,10 @@ final class SentencesOfChange extends Sentences {
             due("edge(0, 1, 0): it must be there even without a chance", x.edge(0, 1, 0), NONE);
             goBy(x, 1, 0, 0);
             due("edge(0, 1, 0) behind us", x.edge(0, 1, 0), NONE);
+            // 1 is bought at 0 only if fork 2 were more than sure
+            LoftTree y = Tape.of("cap 1;root price 5 most 1 sell 0 need 0;fork under 0 chance 40 " + BARE
+                + "fork under 0 chance 60 price 5 most 9 sell 0 need 1;");
+            due("edge(0, 0, 1): 41 there are not", y.edge(0, 0, 1), NONE);
         });
         test(37, "-2: there are none such, i is j;", () -> {
             for (String text : new String[] {HAY, LOST}) {
@@ -305,6 +309,13 @@ final class SentencesOfChange extends Sentences {
             due("planned(0, 0) stays", y.planned(0, 0), 2);
             due("fork(0, 2) stays as it was changed", y.fork(0, 2), 5);
             due("again() of a new one", new LoftTree().again(), 0);
+            LoftTree z = Tape.of(HAY);
+            goBy(z, -1, 0, 1);
+            due("best(2) at fork 2", z.best(2), 0);
+            due("reach(2, 0) at fork 2", z.reach(2, 0), 1);
+            z.again();
+            due("best(2) told anew", z.best(2), 4);
+            due("reach(2, 0) told anew", z.reach(2, 0), 63);
         });
     }
 

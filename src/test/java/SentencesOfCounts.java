@@ -1,5 +1,9 @@
 /** Terms II to V: states and steps, counts of plans, what things are worth, runs. */
 final class SentencesOfCounts extends Sentences {
+    /** 3 are needed at fork 2, and can be bought at fork 1; the loft must be widened for them at 0 or 1. */
+    private static final String WIDE_WAY = "cap 1;wide 4 cost 9;" + ROOT + "fork under 0 chance 100 price 2 most 4 sell 0 need 0;"
+        + "fork under 1 chance 100 price 0 most 0 sell 0 need 3;";
+
     private SentencesOfCounts() {
     }
 
@@ -197,6 +201,11 @@ final class SentencesOfCounts extends Sentences {
             goBy(x, 2, 0, 0);
             due("best(2) from fork 1 on", x.best(2), 6);
             due("step(2, 0) from fork 1 on", x.step(2, 0), 2);
+            // on the way alone it must be widened too, once
+            LoftTree wide = Tape.of(WIDE_WAY);
+            due("best(2)", wide.best(2), 0);
+            goBy(wide, 0, 1, 0);
+            due("best(2) when wide", wide.best(2), 0);
         });
     }
 
@@ -257,6 +266,11 @@ final class SentencesOfCounts extends Sentences {
             due("know()", x.know(), 4 * E8);
             goBy(x, 2, 0, 0);
             due("know() from fork 1 on: 6 less 3", x.know(), 3 * E6);
+            LoftTree wide = Tape.of(WIDE_WAY);
+            due("best(0): 9 and 6", wide.best(0), 15 * E8);
+            due("know()", wide.know(), 0);
+            goBy(wide, 0, 1, 0);
+            due("know() when wide", wide.know(), 0);
         });
         test(TERMS, "KNOWING f SOONER: as if at f the STEP were chosen for each FORK under it by itself, all else likewise best: "
             + "the least mean less that; parts of NOW.", () -> {

@@ -10,6 +10,7 @@ final class SentencesOfRows extends Sentences {
 
     static void tell() {
         lasting();
+        asking();
         count();
         keep();
         back();
@@ -53,6 +54,42 @@ final class SentencesOfRows extends Sentences {
             due("best(2) at the 510th", x.best(2), 4);
             due("take(0) at the 511th", x.take(0) >= 0, true);
             due("cost(0) at the 512th", x.cost(0), 9 * E8);
+        });
+    }
+
+    /** Questions that look at trees other than the one that is told. */
+    private static long ask(LoftTree x, int question) {
+        switch (question) {
+            case 0: return x.best(0);
+            case 1: return x.sooner(1);
+            case 2: return x.middle();
+            case 3: return x.late(0);
+            case 4: return x.coin();
+            case 5: return x.lose(1);
+            case 6: return x.edge(1, 1, 0);
+            case 7: return x.rise(1);
+            case 8: return x.know();
+            case 9: return x.step(2, 0);
+            case 10: return x.steps();
+            case 11: return x.joined();
+            case 12: return x.kinds();
+            default: return x.run(1);
+        }
+    }
+
+    private static void asking() {
+        test(TERMS, "Nothing is promised beyond the answers and state changes described above,", () -> {
+            String bare = "start 1;cap 2;wide 5 cost 3;hold 1;left 2;root price 1 most 2 sell 0 need 0;fork under 0 chance 100 price 3 most 9 sell 0 need 0;"
+                + "fork under 1 chance 50 price 0 most 9 sell 0 need 0;fork under 1 chance 50 price 10 most 9 sell 0 need 4;";
+            for (int first = 0; first <= 13; first++) {
+                for (int second = 0; second <= 13; second++) {
+                    for (String text : new String[] {RUE, LATE_FORK, bare}) {
+                        LoftTree x = Tape.of(text);
+                        ask(x, first);
+                        due("question " + second + " behind " + first, ask(x, second), ask(Tape.of(text), second));
+                    }
+                }
+            }
         });
     }
 
@@ -135,7 +172,11 @@ final class SentencesOfRows extends Sentences {
             x.keep(2);
             x.row(0, 1, 3);
             x.run(0);
-            Tape.tell(x, CHAIN);
+            Tape.tell(x, "start 7;cap 9;" + ROOT);
+            due("best(0)", x.best(0), 0);
+            due("best(1)", x.best(1), 0);
+            due("best(2)", x.best(2), 0);
+            due("reach(0, 0)", x.reach(0, 0), 1 << 7);
             Tape.feed(x, "@@@@");
             due("back(2)", x.back(2), 0);
             int[] now = {2, 3, 1, 16, 1};
@@ -149,6 +190,7 @@ final class SentencesOfRows extends Sentences {
             due("planned(0, 0)", x.planned(0, 0), 2);
             due("planned(0, 1)", x.planned(0, 1), 1);
             due("best(0)", x.best(0), 0);
+            due("worth(2, 1, 1)", x.worth(2, 1, 1), 16 * E6);
             due("reach(2, 1)", x.reach(2, 1), 1 << 3);
             x.set(2, 0, 1);
             x.plan(2, 0, 0);
@@ -159,6 +201,9 @@ final class SentencesOfRows extends Sentences {
             due("planned(2, 0)", x.planned(2, 0), 2);
             due("again() goes to what is told", x.again(), 1);
             due("now(1)", x.now(1), 2);
+            due("best(0) from fork 0 on", x.best(0), 9 * E8);
+            due("best(1) from fork 0 on", x.best(1), 9);
+            due("best(2) from fork 0 on", x.best(2), 4);
         });
         test(48, "-2: no such k;", () -> {
             LoftTree x = Tape.of(HAY);

@@ -43,6 +43,12 @@ final class SentencesOfStates extends Sentences {
             due("reach(1, 1)", far.reach(1, 1), 7);
             due("reach(2, 0)", far.reach(2, 0), 3);
             due("reach(2, 1): widened at either", far.reach(2, 1), 15);
+            far.set(1, 1, 0);
+            due("reach(2, 0)", far.reach(2, 0), 3);
+            due("reach(2, 1): 2 if it was widened at fork 0", far.reach(2, 1), 7);
+            goBy(far, 0, 1, 0);
+            due("reach(2, 0) from fork 1 on, wide", far.reach(2, 0), 0);
+            due("reach(2, 1) from fork 1 on, wide", far.reach(2, 1), 7);
         });
         test(19, "-2: there is none such from NOW on, another wide.", () -> {
             LoftTree x = Tape.of(HAY);
@@ -107,6 +113,12 @@ final class SentencesOfStates extends Sentences {
             int[] stocks = {3, 2, 1, 0, 0};
             for (int f = 0; f <= 4; f++) {
                 due("worth(" + f + ", " + stocks[f] + ", 0) of a chain", chain.worth(f, stocks[f], 0), least[f]);
+            }
+            LoftTree held = Tape.of("cap 5;wide 5 cost 1;hold 1;root price 2 most 5 sell 0 need 0;fork under 0 chance 100 price 0 most 0 sell 0 need 3;");
+            for (int wide = 0; wide <= 1; wide++) {
+                due("worth(0, 0, " + wide + "): 3 bought and held", held.worth(0, 0, wide), 9 * E8);
+                due("worth(0, 3, " + wide + "): 3 held", held.worth(0, 3, wide), 3 * E8);
+                due("worth(0, 20, " + wide + "): 17 given away", held.worth(0, 20, wide), 3 * E8);
             }
         });
         test(21, "NEVER: nothing is lawful;", () -> {
@@ -198,6 +210,10 @@ final class SentencesOfStates extends Sentences {
             LoftTree x = Tape.of(fan(ROOT, 20, 20, 20, 20, 20));
             x.set(3, 0, 1);
             due("joined() of four alike", x.joined(), 3);
+            LoftTree last = Tape.of(fan(ROOT, 20, 30, 50));
+            last.set(1, 0, 1);
+            due("joined() of the last two alike", last.joined(), 3);
+            due("joined() of 40", Tape.of(forty()).joined(), 9);
             // only when the halves under 1 are one, 1 and 2 are alike
             String halves = "fork under 1 chance 50 " + BARE + "fork under 1 chance 50 " + BARE;
             LoftTree y = Tape.of(fan(ROOT, 30, 70) + halves + "fork under 2 chance 100 " + BARE);
@@ -228,6 +244,9 @@ final class SentencesOfStates extends Sentences {
             due("joined(): 20 and 20 are 40", x.joined(), 4);
             x.move(2, 0, 1, 1);
             due("joined(): not 39", x.joined(), 7);
+            LoftTree last = Tape.of(fan(ROOT, 30, 70) + "fork under 1 chance 20 " + odd + "fork under 1 chance 30 " + BARE
+                + "fork under 1 chance 50 " + BARE + "fork under 2 chance 20 " + odd + "fork under 2 chance 80 " + BARE);
+            due("joined(): 30 and 50 are 80", last.joined(), 4);
             due("joined(): 40 and 60 are all", Tape.of(fan(ROOT, 30, 70) + halves + "fork under 2 chance 100 " + BARE).joined(), 3);
         });
     }
@@ -293,6 +312,18 @@ final class SentencesOfStates extends Sentences {
             y.set(2, 1, 3);
             y.set(2, 3, 1);
             y.set(2, 0, 1);
+            LoftTree wide = Tape.of(HAY);
+            goBy(wide, 4, 1, 0);
+            wide.plan(1, 1, 1);
+            due("take(0) when wide", wide.take(0), 1);
+            due("planned(1, 0) when wide", wide.planned(1, 0), -2);
+            due("planned(1, 1) when wide", wide.planned(1, 1), 0);
+            LoftTree far = Tape.of(FAR_END);
+            far.take(0);
+            for (int f = 0; f <= 4; f++) {
+                due("planned(" + f + ", 0) of what is bought far away", far.planned(f, 0), f == 4 ? 9 : 0);
+                due("planned(" + f + ", 1) of what is widened far away", far.planned(f, 1), f == 4 ? 1 : 0);
+            }
             due("take(1)", y.take(1), 2);
             due("planned(2, 0): not only as good as the worst", y.planned(2, 0), 1);
         });

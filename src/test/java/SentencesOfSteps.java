@@ -51,6 +51,18 @@ final class SentencesOfSteps extends Sentences {
             due("step(0, 1), widened", y.step(0, 1), 1);
             LoftTree z = Tape.of("start 20;cap 20;root price 0 most 0 sell 1 need 0;");
             due("step(0, 0): all sold", z.step(0, 0), -20);
+            LoftTree far = Tape.of(FAR_END);
+            for (int i = 0; i < 4; i++) {
+                due("step(0, 1), " + i + " away", far.step(0, 1), 0);
+                far.go(0);
+            }
+            due("step(0, 0), four away", far.step(0, 0), 9);
+            due("step(0, 1), four away", far.step(0, 1), 1);
+            goBy(x, 2, 1, 1);
+            for (int count = 0; count <= 2; count++) {
+                due("step(" + count + ", 0) when wide", x.step(count, 0), 0);
+                due("step(" + count + ", 1) when wide", x.step(count, 1), 0);
+            }
         });
         test(8, "NOTHING likewise, or another what.", () -> {
             for (int count = 0; count <= 2; count++) {
@@ -345,6 +357,10 @@ final class SentencesOfSteps extends Sentences {
             due("cost(0) at fork 2", x.cost(0), 15 * E6);
             due("cost(1) at fork 2", x.cost(1), 15);
             due("cost(2) at fork 2: 8 would do", x.cost(2), 7);
+            LoftTree one = Tape.of("start 20;cap 20;hold 3;" + ROOT);
+            due("cost(0) of fork 0 alone", one.cost(0), 60 * E8);
+            due("cost(1) of fork 0 alone", one.cost(1), 60);
+            due("cost(2) of fork 0 alone: all could be given away", one.cost(2), 60);
         });
         test(17, "NEVER: it is not lawful; another COUNT.", () -> {
             LoftTree x = hayPlanned();

@@ -18,6 +18,13 @@ final class SentencesOfTerms extends Sentences {
         return String.join(" ", java.util.Arrays.copyOfRange(tokens, from, to));
     }
 
+    /** A word of which any letter is another one can't stand there. */
+    private static void misspelt(String ahead, String token, String behind) {
+        for (int i = 0; i < token.length() && Character.isLetter(token.charAt(i)); i++) {
+            fails(ahead + token.substring(0, i) + "z" + token.substring(i + 1) + " " + behind, 1, ahead.length());
+        }
+    }
+
     private static void lines() {
         test(TERMS, "TEXT: {LINE}.", () -> {
             fails("", 1, 0);
@@ -38,6 +45,7 @@ final class SentencesOfTerms extends Sentences {
                 fails(i == n - 1 ? ahead.trim() : ahead + join(tokens, i + 1, n), 1, i == n - 1 ? ahead.length() - 1 : ahead.length());
                 fails(ahead + tokens[i] + " " + join(tokens, i, n), 1, ahead.length() + tokens[i].length() + 1);
                 fails(ahead + "end " + join(tokens, i + 1, n), 1, ahead.length());
+                misspelt(ahead, tokens[i], join(tokens, i + 1, n));
             }
         });
         test(TERMS, "DOES: price N most N sell N need N.", () -> {
@@ -123,6 +131,42 @@ final class SentencesOfTerms extends Sentences {
         fails(ahead + "-1" + behind, 1, ahead.length());
     }
 
+    /** What is asked of 40 forks that want nothing. */
+    private static void askAll(LoftTree x) {
+        due("fork(35, 11)", x.fork(35, 11), 39);
+        due("fork(39, 6)", x.fork(39, 6), 4);
+        for (int count = 0; count <= 2; count++) {
+            due("best(" + count + ")", x.best(count), 0);
+            due("ties(" + count + ")", x.ties(count), 2);
+            due("cost(" + count + ")", x.cost(count), 0);
+            due("take(" + count + ")", x.take(count), 0);
+        }
+        due("judge()", x.judge(), NONE);
+        due("within(100)", x.within(100), 0);
+        due("reach(39, 0)", x.reach(39, 0), 1);
+        due("dead(39, 1)", x.dead(39, 1), 0);
+        due("worth(39, 20, 1)", x.worth(39, 20, 1), 0);
+        due("unit(39)", x.unit(39), 0);
+        due("joined()", x.joined(), 9);
+        due("kinds()", x.kinds(), 6);
+        due("same(38, 39)", x.same(38, 39), 1);
+        due("costTo(39)", x.costTo(39), 0);
+        due("gap(39)", x.gap(39), 0);
+        due("know()", x.know(), 0);
+        due("sooner(35)", x.sooner(35), 0);
+        due("middle()", x.middle(), 0);
+        due("late(0)", x.late(0), 0);
+        due("coin()", x.coin(), 0);
+        due("ruin(0)", x.ruin(0), 0);
+        due("tail(100)", x.tail(100), 0);
+        due("lose(1)", x.lose(1), 0);
+        due("edge(35, 0, 3)", x.edge(35, 0, 3), NONE);
+        due("rise(39)", x.rise(39), NONE);
+        due("run(8) comes to an end", x.costTo(x.run(8)), 0);
+        due("count(1)", x.count(1), 32);
+        due("count(3)", x.count(3), 4);
+    }
+
     private static void bounds() {
         test(TERMS, "start, cap, wide, most, need 0 .. 20, price, sell, hold, left 0 .. 99, cost 0 .. 999, chance 1 .. 100.", () -> {
             bounded("start ", ";" + ROOT, 0, 20, x -> x.count(4));
@@ -150,6 +194,18 @@ final class SentencesOfTerms extends Sentences {
             reads(forks(39), 39);
             due("count(0)", reads(forks(40), 40).count(0), 40);
             fails(forks(41), 3, forks(41).lastIndexOf("fork"));
+            LoftTree x = reads(forty(), 40);
+            askAll(x);
+            x.keep(0);
+            Tape.tell(x, ROOT);
+            x.back(0);
+            askAll(x);
+            due("move(35, 0, 3, 25)", x.move(35, 0, 3, 25), 50);
+            int[] way = {5, 30, 35, 39};
+            for (int i = 0; i < 4; i++) {
+                due("go to " + way[i], x.go(i < 3 ? 4 : 3), way[i]);
+            }
+            due("best(0) at fork 39", x.best(0), 0);
         });
         test(TERMS, "An END: a FORK with none under it.", () -> {
             due("count(1) of a new one", new LoftTree().count(1), 1);

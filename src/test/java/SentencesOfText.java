@@ -95,6 +95,13 @@ final class SentencesOfText extends Sentences {
             y.text();
             due("fault(1): the last byte", y.fault(1), 1799);
             due("feed to an empty one", y.feed(0, 0, 0, 0, 0), 20);
+            // 1,800 bytes, the last one being of each kind of token
+            String blanks = " ".repeat(1799 - ROOT.length());
+            fails(ROOT + blanks + "a", 1, 1799);
+            fails(ROOT + blanks + "7", 1, 1799);
+            fails(ROOT + blanks + ";", 1, 1799);
+            reads(ROOT + blanks + " ", 1);
+            reads(" " + blanks + ROOT, 1);
         });
     }
 
@@ -108,6 +115,16 @@ final class SentencesOfText extends Sentences {
             due("count(2)", x.count(2), 34);
             due("feed comes behind that", x.feed(BLANKS, BLANKS, BLANKS, BLANKS, BLANKS), 54);
             due("text(): the others are gone", x.text(), 1);
+            // what is cut off is no part of a word or a number
+            Tape.feed(x, "startle");
+            x.end(5);
+            x.text();
+            due("fault(1) of start", x.fault(1), 5);
+            Tape.feed(x, "start 123");
+            x.end(7);
+            x.text();
+            due("fault(0) of start 1", x.fault(0), 1);
+            due("fault(1) of start 1", x.fault(1), 7);
             Tape.feed(x, ROOT);
             due("end(0)", x.end(0), 0);
             due("count(2)", x.count(2), 0);
@@ -141,6 +158,7 @@ final class SentencesOfText extends Sentences {
             due("text() of 1", Tape.tell(x, ROOT), 1);
             due("fork(1, 0): of the last text there is none", x.fork(1, 0), NOTHING);
             due("fork(0, 7)", x.fork(0, 7), 0);
+            due("count(3)", x.count(3), 0);
             due("text() with a fault", Tape.tell(x, ROOT + "@"), -4);
             due("count(2)", x.count(2), 0);
         });
@@ -155,7 +173,16 @@ final class SentencesOfText extends Sentences {
             }
             Tape.tell(x, CHAIN);
             due("now(1)", x.now(1), 3);
-            due("best(0) is the new one's", x.best(0), 6 * E8);
+            LoftTree y = Tape.of(HAY);
+            due("best(0)", y.best(0), 9 * E8);
+            due("best(1)", y.best(1), 9);
+            due("best(2)", y.best(2), 4);
+            due("reach(1, 0)", y.reach(1, 0), 63);
+            Tape.tell(y, CHAIN);
+            due("best(0) is the new one's", y.best(0), 6 * E8);
+            due("best(1) is the new one's", y.best(1), 6);
+            due("best(2) is the new one's", y.best(2), 0);
+            due("reach(1, 0) is the new one's", y.reach(1, 0), 1023);
         });
         test(4, "the PLAN does nothing anywhere.", () -> {
             LoftTree x = hayPlanned();

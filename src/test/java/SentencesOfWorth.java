@@ -39,6 +39,7 @@ final class SentencesOfWorth extends Sentences {
             LoftTree late = Tape.of(LATE_FORK);
             goBy(late, 0, 0, 0);
             due("know() from fork 1 on: 10 less 5", late.know(), 5 * E6);
+            due("know() of fork 0 alone", Tape.of("start 20;cap 20;left 99;" + ROOT).know(), 0);
         });
         test(27, "NEVER: nothing is lawful.", () -> {
             due("know() of a lost one", Tape.of(LOST).know(), NEVER);
@@ -59,6 +60,19 @@ final class SentencesOfWorth extends Sentences {
             // 2 at 0; known at 1, nothing for fork 2 and 6 for fork 3
             due("sooner(1): 8 less 2 and 6 / 2", Tape.of(RUE).sooner(1), 3 * E8);
             due("sooner(0) of a new one", new LoftTree().sooner(0), 0);
+            // the same a year later, so that what is known two and three away counts for fork 0
+            LoftTree far = Tape.of("cap 9;hold 1;" + ROOT + "fork under 0 chance 100 price 1 most 9 sell 0 need 0;"
+                + "fork under 1 chance 100 price 4 most 9 sell 0 need 0;fork under 2 chance 50 " + BARE
+                + "fork under 2 chance 50 price 0 most 0 sell 0 need 2;");
+            due("sooner(2), two away", far.sooner(2), E8);
+            due("sooner(1)", far.sooner(1), 0);
+            due("sooner(4), an end", far.sooner(4), 0);
+            far.go(0);
+            due("sooner(2) from fork 1 on", far.sooner(2), E6);
+            // five under 0 that want nothing; what is under fork 1 costs 9
+            LoftTree five = Tape.of(fan("cap 9;root price 0 most 0 sell 0 need 0;", 20, 20, 20, 20, 20) + "fork under 1 chance 100 price 9 most 1 sell 0 need 1;");
+            due("best(0)", five.best(0), 9 * E8 / 5);
+            due("sooner(0) with five under it", five.sooner(0), 0);
         });
         test(28, "NEVER likewise, or there is no such FORK from NOW on.", () -> {
             due("sooner(0) of a lost one", Tape.of(LOST).sooner(0), NEVER);
@@ -90,6 +104,16 @@ final class SentencesOfWorth extends Sentences {
             due("middle() from fork 1 on", x.middle(), 0);
             x.set(3, 0, 20);
             due("middle() from fork 1 on: 20 less 10", x.middle(), 10 * E6);
+            // from fork 2 on, which is not the likelier one: 1 is needed at 3
+            LoftTree beside = Tape.of("cap 9;" + ROOT + "fork under 0 chance 60 " + BARE + "fork under 0 chance 40 price 2 most 1 sell 0 need 0;"
+                + "fork under 2 chance 100 price 9 most 1 sell 0 need 1;");
+            beside.go(1);
+            due("best(0) from fork 2 on", beside.best(0), 2 * E6);
+            due("middle() from fork 2 on", beside.middle(), 0);
+            // of five under 0 the second is likeliest and wants nothing; the one under fork 1 is sure, but not under 0
+            LoftTree five = Tape.of(fan("cap 9;root price 1 most 9 sell 0 need 0;", 16, 21, 21, 21, 21) + "fork under 1 chance 100 price 8 most 9 sell 0 need 1;");
+            due("best(0)", five.best(0), E8);
+            due("middle() of five: 16 times 8 less 100", five.middle(), 28 * E6);
         });
         test(29, "NEVER: nothing is lawful,", () -> {
             due("middle() of a lost one", Tape.of(LOST).middle(), NEVER);
@@ -154,6 +178,10 @@ final class SentencesOfWorth extends Sentences {
             due("now(3)", x.now(3), 8);
             due("coin() of a chain", Tape.of(CHAIN).coin(), 6);
             due("coin() of a new one", new LoftTree().coin(), 0);
+            due("coin() of what is left", Tape.of("cap 5;left 9;root price 0 most 5 sell 0 need 0;").coin(), 0);
+            LoftTree later = Tape.of("cap 5;left 9;root price 4 most 1 sell 0 need 1;fork under 0 chance 100 price 0 most 5 sell 0 need 0;");
+            due("best(1): 4 less 45", later.best(1), -41);
+            due("coin(): 4 ahead of what is left", later.coin(), 4);
             // the mean would have it otherwise: nothing at 0 is 1 in 100 times 99
             LoftTree y = Tape.of(fan("cap 9;root price 2 most 1 sell 0 need 0;", 99) + "fork under 0 chance 1 price 99 most 1 sell 0 need 1;");
             due("step(0, 0)", y.step(0, 0), 0);
@@ -188,6 +216,9 @@ final class SentencesOfWorth extends Sentences {
             needle.go(0);
             due("ruin(0) of a needle from fork 1 on", needle.ruin(0), 100);
             due("ruin(0) of a new one", new LoftTree().ruin(0), 0);
+            LoftTree one = Tape.of("start 20;cap 20;hold 3;" + ROOT);
+            due("ruin(59) of fork 0 alone", one.ruin(59), E8);
+            due("ruin(60) of fork 0 alone", one.ruin(60), 0);
         });
         test(32, "NEVER: it is not lawful; another coin.", () -> {
             LoftTree x = hayPlanned();
@@ -242,6 +273,15 @@ final class SentencesOfWorth extends Sentences {
             due("lose(1) from fork 3 on", x.lose(1), 0);
             x.go(0);
             due("lose(1) at an end", x.lose(1), 0);
+            LoftTree late = Tape.of(LATE);
+            late.late(0);
+            due("lose(4) behind late(0)", late.lose(4), 0);
+            LoftTree hay = Tape.of(HAY);
+            hay.middle();
+            due("lose(1) behind middle()", hay.lose(1), 0);
+            goBy(hay, 2, 1, 0);
+            due("lose(1) when wide", hay.lose(1), 0);
+            due("middle() when wide", hay.middle(), 0);
         });
         test(34, "NEVER: nothing is lawful,", () -> {
             for (int far = 1; far <= 4; far++) {

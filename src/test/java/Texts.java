@@ -44,6 +44,10 @@ abstract class Texts {
     static final String RUE = "cap 9;root price 1 most 2 sell 0 need 0;fork under 0 chance 100 price 3 most 9 sell 0 need 0;"
         + "fork under 1 chance 50 price 0 most 0 sell 0 need 0;fork under 1 chance 50 price 10 most 9 sell 0 need 4;";
 
+    /** Only at fork 4, four away, something can be bought: 9, which are worth 5 each if the loft is widened for 1. */
+    static final String FAR_END = "wide 9 cost 1;left 5;" + ROOT + "fork under 0 chance 100 " + BARE + "fork under 1 chance 100 " + BARE
+        + "fork under 2 chance 100 " + BARE + "fork under 3 chance 100 price 1 most 9 sell 0 need 0;";
+
     /** Numbered as they stand: 1 and 2 under 0, then 3 under 2, 4 under 1. One is needed at 3 and at 4. */
     static final String CROSSED = "start 2;cap 9;" + ROOT + "fork under 0 chance 50 " + BARE + "fork under 0 chance 50 " + BARE
         + "fork under 2 chance 100 price 1 most 1 sell 0 need 1;fork under 1 chance 100 price 1 most 1 sell 0 need 1;";
@@ -62,6 +66,15 @@ abstract class Texts {
         StringBuilder s = new StringBuilder(head);
         for (int c : chances) {
             s.append("fork under 0 chance ").append(c).append(" ").append(BARE);
+        }
+        return s.toString();
+    }
+
+    /** 40 forks of which the last ones have some under them: 30 has 31 .. 35, 35 has 36 .. 39. */
+    static String forty() {
+        StringBuilder s = new StringBuilder(forks(31));
+        for (int f = 31; f < 40; f++) {
+            s.append(f <= 35 ? "fork under30chance20" : "fork under35chance25").append("price0most0sell0need0;");
         }
         return s.toString();
     }
