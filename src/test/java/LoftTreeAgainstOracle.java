@@ -1,9 +1,12 @@
 import java.util.Random;
 
-/** Many small trees, each call held against the list of all plans. */
+/** Many small trees, each call held against the list of all plans; and some great ones. */
 public final class LoftTreeAgainstOracle {
     private static int wrong = 0;
     private static long asked = 0;
+    // how far what is asked goes: stocks, and numbers of a fork
+    private static int stocks = 4;
+    private static int amounts = 4;
 
     private static void due(Oracle o, String call, long got, long want) {
         asked++;
@@ -18,6 +21,12 @@ public final class LoftTreeAgainstOracle {
         for (int t = 0; t < trees && wrong < 30; t++) {
             oneTree(new Random(seed * 1000003 + t), t);
         }
+        stocks = 21;
+        amounts = 12;
+        for (int t = 0; t < trees / 10 && wrong < 30; t++) {
+            Random r = new Random(seed * 1000003 + t);
+            held(r, GreatOracle.random(r), 2);
+        }
         System.out.println(wrong == 0 ? "all " + asked + " answers are as the oracle's" : wrong + " answers are not as the oracle's");
         if (wrong != 0) {
             System.exit(1);
@@ -27,11 +36,14 @@ public final class LoftTreeAgainstOracle {
     private static void oneTree(Random r, int t) {
         int most = 1 + t % 7;
         int room = most <= 4 ? 3 : most == 5 ? 2 : 1;
-        Oracle o = Oracle.random(r, most, room, r.nextInt(3) == 0 ? 2 : 9);
+        held(r, Oracle.random(r, most, room, r.nextInt(3) == 0 ? 2 : 9), 4);
+    }
+
+    private static void held(Random r, Oracle o, int rounds) {
         LoftTree x = new LoftTree();
         due(o, "text()", Tape.tell(x, o.text()), o.nodes.size());
         Oracle kept = null;
-        for (int round = 0; round < 4; round++) {
+        for (int round = 0; round < rounds; round++) {
             telling(r, o, x);
             asking(r, o, x);
             planning(r, o, x);
@@ -53,7 +65,7 @@ public final class LoftTreeAgainstOracle {
     private static void telling(Random r, Oracle o, LoftTree x) {
         for (int i = 0; i < 6; i++) {
             int f = someFork(r, o);
-            int px = r.nextInt(7) - 3;
+            int px = r.nextInt(2 * stocks - 1) - stocks + 1;
             int pb = r.nextInt(10) == 0 ? 2 : r.nextInt(4) / 3;
             due(o, "plan(" + f + ", " + px + ", " + pb + ")", x.plan(f, px, pb) ? 1 : 0, o.tellPlan(f, px, pb) ? 1 : 0);
         }
@@ -69,7 +81,7 @@ public final class LoftTreeAgainstOracle {
             due(o, "step(" + c + ", 0)", x.step(c, 0), o.step(c, 0));
             due(o, "step(" + c + ", 1)", x.step(c, 1), o.step(c, 1));
             due(o, "ties(" + c + ")", x.ties(c), o.ties(c));
-            int i = r.nextInt(9) - 1;
+            int i = r.nextInt(2 * stocks + 1) - 1;
             due(o, "more(" + c + ", " + i + ")", x.more(c, i), o.more(c, i));
         }
         due(o, "steps()", x.steps(), o.offersNow(0).size());
@@ -90,7 +102,7 @@ public final class LoftTreeAgainstOracle {
             int w = r.nextInt(3);
             due(o, "reach(" + f + ", " + w + ")", x.reach(f, w), o.reach(f, w));
             due(o, "dead(" + f + ", " + w + ")", x.dead(f, w), o.dead(f, w));
-            int s = r.nextInt(4);
+            int s = r.nextInt(stocks);
             due(o, "worth(" + f + ", " + s + ", " + w + ")", x.worth(f, s, w), o.worth(f, s, w));
             int what = r.nextInt(14) - 1;
             due(o, "fork(" + f + ", " + what + ")", x.fork(f, what), o.forkNumber(f, what));
@@ -148,7 +160,7 @@ public final class LoftTreeAgainstOracle {
         switch (r.nextInt(6)) {
             case 0:
                 int what = r.nextInt(6) - 1;
-                int v = r.nextInt(12) == 0 ? 21 : r.nextInt(4);
+                int v = r.nextInt(12) == 0 ? 21 : r.nextInt(amounts);
                 due(o, "set(" + f + ", " + what + ", " + v + ")", x.set(f, what, v), o.set(f, what, v));
                 break;
             case 1:

@@ -8,7 +8,7 @@ import java.util.TreeMap;
  * The document once more, told as plainly as can be: it lists every plan there is and looks at each. It is
  * only fit for small trees. It shares nothing with LoftTree but the document.
  */
-final class Oracle implements Cloneable {
+class Oracle implements Cloneable {
     static final int NONE = -1;
     static final int NOTHING = -2000000000;
     static final long NEVER = Long.MIN_VALUE;
@@ -43,9 +43,9 @@ final class Oracle implements Cloneable {
     int fork, stock, isWide, spent, years;
 
     // how the listing of plans is bent for late, lose and sooner
-    private int widenTo = 4;
-    private int endAt = 5;
-    private int known = NONE;
+    int widenTo = 4;
+    int endAt = 5;
+    int known = NONE;
 
     static Oracle fresh() {
         Oracle o = new Oracle();
@@ -132,10 +132,10 @@ final class Oracle implements Cloneable {
             if (n.under == NONE) {
                 s.append("root");
             } else {
-                s.append("fork under ").append(n.under).append(" chance ").append(n.chance);
+                s.append("fork under ").append(n.under).append("chance").append(n.chance);
             }
-            s.append(" price ").append(n.price).append(" most ").append(n.most).append(" sell ").append(n.sell)
-                .append(" need ").append(n.need).append(";");
+            s.append(" price").append(n.price).append("most").append(n.most).append(" sell ").append(n.sell)
+                .append("need").append(n.need).append(";");
         }
         return s.toString();
     }
@@ -628,13 +628,17 @@ final class Oracle implements Cloneable {
         if (least == NEVER || !has(f) || !ahead(f)) {
             return NEVER;
         }
+        return least - leastKnowing(f);
+    }
+
+    long leastKnowing(int f) {
         known = f;
         long low = Long.MAX_VALUE;
         for (Whole v : wholes(fork, stock, isWide)) {
             low = Math.min(low, measure(0, v, fork));
         }
         known = NONE;
-        return least - low;
+        return low;
     }
 
     private long excess(int x, int b) {
